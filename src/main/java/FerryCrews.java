@@ -34,6 +34,8 @@ public final class FerryCrews {
     private static final int OPEN = 0;
     private static final int SAILED = 1;
     private static final int CANCELLED = 2;
+    /** How a sailing is for which there is room, but that did not come yet. */
+    private static final int NOT_COME = 3;
 
     private static final int REST_OF_A_DAY = 0;
     private static final int LONG_REST = 1;
@@ -211,7 +213,7 @@ public final class FerryCrews {
         if (!found.isOpen()) {
             return NOT_POSSIBLE;
         }
-        if (found.roleOf(member) == NO_PLACE) {
+        if (!found.seats(member)) {
             return NONE;
         }
         history.record(state);
@@ -434,7 +436,7 @@ public final class FerryCrews {
             case 6:
                 return state.membersSickNow();
             case 7:
-                return state.openPlaces() - state.takenOpenPlaces();
+                return state.freeOpenPlaces();
             case 8:
                 return state.takenOpenPlaces();
             case 9:
@@ -573,12 +575,17 @@ public final class FerryCrews {
         int start;
         int end;
         int set;
-        int status;
+        int status = NOT_COME;
+        /** Of the place that a member who falls sick gives up, until it is covered. */
+        int roleGivenUp = NO_PLACE;
         private final int[] places = new int[ROLES];
         private final int[] roles = new int[MOST_MEMBERS];
 
-        /** Objects are used again, so nothing of what was there before may stay. */
-        void renew(int itsNumber, int itsFerry, int itsStart, int hours, int itsSet) {
+        Sailing() {
+            unseatAll();
+        }
+
+        void come(int itsNumber, int itsFerry, int itsStart, int hours, int itsSet) {
             number = itsNumber;
             ferry = itsFerry;
             start = itsStart;
@@ -590,7 +597,6 @@ public final class FerryCrews {
                 places[role] = digits % 10;
                 digits /= 10;
             }
-            unseatAll();
         }
 
         void copyFrom(Sailing other) {
@@ -604,12 +610,21 @@ public final class FerryCrews {
             System.arraycopy(other.roles, 0, roles, 0, MOST_MEMBERS);
         }
 
+        boolean hasCome() {
+            return status != NOT_COME;
+        }
+
         boolean isOpen() {
             return status == OPEN;
         }
 
         boolean occupies(int someFerry, int from, int to) {
-            return status != CANCELLED && ferry == someFerry && start < to && from < end;
+            boolean sails = status == OPEN || status == SAILED;
+            return sails && ferry == someFerry && start < to && from < end;
+        }
+
+        boolean seats(int member) {
+            return roleOf(member) != NO_PLACE;
         }
 
         int roleOf(int member) {
@@ -639,6 +654,14 @@ public final class FerryCrews {
             status = CANCELLED;
             unseatAll();
             return seated;
+        }
+
+        void depart() {
+            if (freePlaces() == 0) {
+                status = SAILED;
+            } else {
+                callOff();
+            }
         }
 
         int freePlacesOf(int role) {
@@ -697,14 +720,6 @@ public final class FerryCrews {
         private final int[] certificates = new int[ROLES];
         int sickUntil;
         int covers;
-
-        void renew() {
-            for (int role = 0; role < ROLES; role++) {
-                certificates[role] = 0;
-            }
-            sickUntil = 0;
-            covers = 0;
-        }
 
         void copyFrom(Member other) {
             System.arraycopy(other.certificates, 0, certificates, 0, ROLES);
@@ -900,12 +915,10 @@ public final class FerryCrews {
         int now;
         int sailingCount;
         int memberCount;
-        /** The sailings by start, of several by number: the order in which places are covered. */
+        /** By start, of several by number, as places are covered; behind them those that did not come yet. */
         private final Sailing[] byStart = new Sailing[MOST_SAILINGS];
         private final Member[] members = new Member[MOST_MEMBERS];
         private final Ladder[] ladders = new Ladder[ROLES];
-        /** For each sailing of byStart the role of the place that was given up, while a member falls sick. */
-        private final int[] givenUp = new int[MOST_SAILINGS];
 
         State(Duties sharedDuties) {
             duties = sharedDuties;
@@ -931,10 +944,10 @@ public final class FerryCrews {
             sailingCount = other.sailingCount;
             memberCount = other.memberCount;
             System.arraycopy(other.settings, 0, settings, 0, SETTINGS);
-            for (int rank = 0; rank < sailingCount && rank < MOST_SAILINGS; rank++) {
+            for (int rank = 0; rank < MOST_SAILINGS; rank++) {
                 byStart[rank].copyFrom(other.byStart[rank]);
             }
-            for (int member = 0; member < memberCount && member < MOST_MEMBERS; member++) {
+            for (int member = 0; member < MOST_MEMBERS; member++) {
                 members[member].copyFrom(other.members[member]);
             }
             for (int role = 0; role < ROLES; role++) {
@@ -943,9 +956,9 @@ public final class FerryCrews {
         }
 
         Sailing sailingAt(int number) {
-            for (int rank = 0; rank < sailingCount && rank < MOST_SAILINGS; rank++) {
-                if (byStart[rank].number == number) {
-                    return byStart[rank];
+            for (Sailing sailing : byStart) {
+                if (sailing.hasCome() && sailing.number == number) {
+                    return sailing;
                 }
             }
             return null;
@@ -966,8 +979,8 @@ public final class FerryCrews {
             if (!isWithin(start, now, LAST_START) || !isWithin(hours, 1, MOST_SAILING_HOURS) || !isSet(set)) {
                 return BAD_VALUE;
             }
-            for (int rank = 0; rank < sailingCount; rank++) {
-                if (byStart[rank].occupies(ferry, start, start + hours)) {
+            for (Sailing sailing : byStart) {
+                if (sailing.occupies(ferry, start, start + hours)) {
                     return NOT_POSSIBLE;
                 }
             }
@@ -976,11 +989,11 @@ public final class FerryCrews {
 
         int addSailing(int ferry, int start, int hours, int set) {
             int number = sailingCount;
-            if (number >= MOST_SAILINGS) {
+            if (number < 0 || number >= MOST_SAILINGS) {
                 return FULL;
             }
             Sailing added = byStart[number];
-            added.renew(number, ferry, start, hours, set);
+            added.come(number, ferry, start, hours, set);
             int rank = number;
             while (rank > 0 && byStart[rank - 1].start > start) {
                 byStart[rank] = byStart[rank - 1];
@@ -996,16 +1009,14 @@ public final class FerryCrews {
             if (!isMemberNumber(number) || !isRole(role)) {
                 return FULL;
             }
-            members[number].renew();
-            members[number].replaceCertificate(role, end);
             memberCount++;
+            members[number].replaceCertificate(role, end);
             ladders[role].putLast(number);
             return number;
         }
 
         boolean needsCertificateAfter(int member, int role, int end) {
-            for (int rank = 0; rank < sailingCount; rank++) {
-                Sailing sailing = byStart[rank];
+            for (Sailing sailing : byStart) {
                 if (sailing.isOpen() && sailing.end > end && sailing.roleOf(member) == role) {
                     return true;
                 }
@@ -1016,16 +1027,16 @@ public final class FerryCrews {
         /** The duties that a member has, or would have with a place on one more sailing (null for none). */
         Duties dutiesOf(int member, Sailing more) {
             duties.clear();
-            for (int rank = 0; rank < sailingCount; rank++) {
-                Sailing sailing = byStart[rank];
-                if (sailing == more || sailing.roleOf(member) != NO_PLACE) {
+            for (Sailing sailing : byStart) {
+                if (sailing == more || sailing.seats(member)) {
                     duties.addSailing(sailing);
                 }
             }
-            for (int rank = 0; rank < sailingCount && settings[HANDOVER] == 1; rank++) {
-                Sailing sailing = byStart[rank];
-                if (sailing == more || sailing.roleOf(member) != NO_PLACE) {
-                    duties.addHandover(sailing);
+            if (settings[HANDOVER] == 1) {
+                for (Sailing sailing : byStart) {
+                    if (sailing == more || sailing.seats(member)) {
+                        duties.addHandover(sailing);
+                    }
                 }
             }
             return duties;
@@ -1065,7 +1076,7 @@ public final class FerryCrews {
             if (sailing.start < member.sickUntil) {
                 return IS_SICK;
             }
-            if (sailing.roleOf(number) != NO_PLACE) {
+            if (sailing.seats(number)) {
                 return HAS_A_PLACE;
             }
             // Rests held before, so only rows with an hour of the new duty can have got worse.
@@ -1074,10 +1085,10 @@ public final class FerryCrews {
         }
 
         private boolean coverPlace(Sailing sailing, int role) {
-            if (!isRole(role)) {
+            Ladder steps = ladderOf(role);
+            if (steps == null) {
                 return false;
             }
-            Ladder steps = ladders[role];
             for (int rank = 0; rank < steps.size; rank++) {
                 int number = steps.memberOfRank(rank);
                 Member member = memberAt(number);
@@ -1105,14 +1116,13 @@ public final class FerryCrews {
                 return UNKNOWN;
             }
             member.sickUntil = now + hours;
-            for (int rank = 0; rank < sailingCount; rank++) {
-                Sailing sailing = byStart[rank];
+            for (Sailing sailing : byStart) {
                 boolean misses = sailing.isOpen() && sailing.start < member.sickUntil;
-                givenUp[rank] = misses ? sailing.unseat(number) : NO_PLACE;
+                sailing.roleGivenUp = misses ? sailing.unseat(number) : NO_PLACE;
             }
             int stayFree = 0;
-            for (int rank = 0; rank < sailingCount; rank++) {
-                if (givenUp[rank] != NO_PLACE && !coverPlace(byStart[rank], givenUp[rank])) {
+            for (Sailing sailing : byStart) {
+                if (sailing.roleGivenUp != NO_PLACE && !coverPlace(sailing, sailing.roleGivenUp)) {
                     stayFree++;
                 }
             }
@@ -1122,14 +1132,9 @@ public final class FerryCrews {
         /** All hours in one go: what becomes of a sailing depends on no other. */
         int goOn(int hours) {
             now += hours;
-            for (int rank = 0; rank < sailingCount; rank++) {
-                Sailing sailing = byStart[rank];
+            for (Sailing sailing : byStart) {
                 if (sailing.isOpen() && sailing.start < now) {
-                    if (sailing.freePlaces() == 0) {
-                        sailing.status = SAILED;
-                    } else {
-                        sailing.callOff();
-                    }
+                    sailing.depart();
                 }
             }
             return now;
@@ -1137,8 +1142,8 @@ public final class FerryCrews {
 
         int placesOf(int member, int status) {
             int places = 0;
-            for (int rank = 0; rank < sailingCount; rank++) {
-                if (byStart[rank].status == status && byStart[rank].roleOf(member) != NO_PLACE) {
+            for (Sailing sailing : byStart) {
+                if (sailing.status == status && sailing.seats(member)) {
                     places++;
                 }
             }
@@ -1146,18 +1151,18 @@ public final class FerryCrews {
         }
 
         int nextSailingOf(int member) {
-            for (int rank = 0; rank < sailingCount; rank++) {
-                if (byStart[rank].isOpen() && byStart[rank].roleOf(member) != NO_PLACE) {
-                    return byStart[rank].number;
+            for (Sailing sailing : byStart) {
+                if (sailing.isOpen() && sailing.seats(member)) {
+                    return sailing.number;
                 }
             }
             return NONE;
         }
 
         int firstSailingWithFreePlace() {
-            for (int rank = 0; rank < sailingCount; rank++) {
-                if (byStart[rank].isOpen() && byStart[rank].freePlaces() > 0) {
-                    return byStart[rank].number;
+            for (Sailing sailing : byStart) {
+                if (sailing.isOpen() && sailing.freePlaces() > 0) {
+                    return sailing.number;
                 }
             }
             return NONE;
@@ -1165,8 +1170,7 @@ public final class FerryCrews {
 
         int sailingsToBeCancelledBefore(int hour) {
             int cancelled = 0;
-            for (int rank = 0; rank < sailingCount; rank++) {
-                Sailing sailing = byStart[rank];
+            for (Sailing sailing : byStart) {
                 if (sailing.isOpen() && sailing.start < hour && sailing.freePlaces() > 0) {
                     cancelled++;
                 }
@@ -1176,29 +1180,29 @@ public final class FerryCrews {
 
         int sailingsThatAre(int status) {
             int found = 0;
-            for (int rank = 0; rank < sailingCount; rank++) {
-                if (byStart[rank].status == status) {
+            for (Sailing sailing : byStart) {
+                if (sailing.status == status) {
                     found++;
                 }
             }
             return found;
         }
 
-        int openPlaces() {
-            int places = 0;
-            for (int rank = 0; rank < sailingCount; rank++) {
-                if (byStart[rank].isOpen()) {
-                    places += byStart[rank].allPlaces();
+        int freeOpenPlaces() {
+            int free = 0;
+            for (Sailing sailing : byStart) {
+                if (sailing.isOpen()) {
+                    free += sailing.freePlaces();
                 }
             }
-            return places;
+            return free;
         }
 
         int takenOpenPlaces() {
             int taken = 0;
-            for (int rank = 0; rank < sailingCount; rank++) {
-                if (byStart[rank].isOpen()) {
-                    taken += byStart[rank].takenPlaces();
+            for (Sailing sailing : byStart) {
+                if (sailing.isOpen()) {
+                    taken += sailing.takenPlaces();
                 }
             }
             return taken;
@@ -1206,8 +1210,8 @@ public final class FerryCrews {
 
         int membersSickNow() {
             int sickNow = 0;
-            for (int member = 0; member < memberCount; member++) {
-                if (members[member].sickUntil > now) {
+            for (Member member : members) {
+                if (member.sickUntil > now) {
                     sickNow++;
                 }
             }
@@ -1216,8 +1220,8 @@ public final class FerryCrews {
 
         int allCovers() {
             int covers = 0;
-            for (int member = 0; member < memberCount; member++) {
-                covers += members[member].covers;
+            for (Member member : members) {
+                covers += member.covers;
             }
             return covers;
         }

@@ -261,6 +261,14 @@ public final class MembersTest {
         due("not sick then", x.why(0, 0, 0), 0);
         x.sick(0, 16);
         due("sick in its first hour", x.why(0, 0, 0), 4);
+        x.sick(0, 1);
+        x.give(0, 0, 0);
+        x.leave(0, 0);
+        due("it ends at the start", x.sick(0, 15), 0);
+        due("the place is not given up", x.crew(0, 0, 0), 0);
+        due("nor taken as a cover", x.memberOf(0, 8), 0);
+        due("an hour more", x.sick(0, 16), 1);
+        due("it is given up", x.crew(0, 0, 0), -5);
     }
 
     private static void well() {
@@ -286,5 +294,13 @@ public final class MembersTest {
         x.undo();
         x.pass(1);
         due("it is over", x.well(0), -5);
+        FerryCrews y = new FerryCrews();
+        y.member(0, 900);
+        y.sailing(0, 0, 4, 1000);
+        y.sick(0, 7);
+        due("in the hour 0", y.well(0), 7);
+        due("nobody is sick", y.count(6), 0);
+        due("nor up to an hour", y.memberOf(0, 4), -5);
+        due("the sailing of the hour 0", y.why(0, 0, 0), 0);
     }
 }

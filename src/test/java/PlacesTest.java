@@ -128,6 +128,11 @@ public final class PlacesTest {
         x.giveUp(0, 0);
         due("the handover of the second", x.crew(1, 0, 2), 3);
         due("the handover in the hours of a duty", x.why(0, 0, 0), 0);
+        x.sailing(4, 1, 2, 1000);
+        due("a start at the hour 1", x.give(0, 6, 0), 0);
+        due("its handover at the hour 0", x.crew(6, 0, 2), 0);
+        due("no rest in the hour 0", x.rest(0, 0, 1), 0);
+        due("another duty in that hour", x.why(0, 0, 0), 6);
     }
 
     /** 10 of 24 hours: 14 hours of duty at the most. */

@@ -12,6 +12,7 @@ public final class ToldTest {
         rest();
         leastRest();
         leastRestEarliest();
+        leastRestFromTheHour0();
         overtime();
         count();
         CHECK.end();
@@ -271,6 +272,23 @@ public final class ToldTest {
         due("the last one alone", x.leastRest(0, 0), 11);
         due("with one hour of another", x.leastRest(0, 1), 108);
         due("6 ahead and 6 behind, in the row from 114", x.leastRest(0, 2), 6);
+    }
+
+    private static void leastRestFromTheHour0() {
+        FerryCrews x = Check.withoutRests();
+        x.set(3, 0);
+        x.member(0, 990);
+        x.sailing(0, 0, 4, 1000);
+        x.sailing(1, 50, 4, 1000);
+        x.give(0, 0, 0);
+        x.give(0, 1, 0);
+        due("4 hours, and 4 hours", x.leastRest(0, 0), 20);
+        due("the row from 0", x.leastRest(0, 1), 0);
+        due("10 ahead and 10 behind, in the row from 40", x.leastRest(0, 2), 10);
+        x.sailing(2, 26, 2, 1000);
+        x.give(0, 2, 0);
+        due("the rows from 0, from 4 and from 26", x.leastRest(0, 0), 20);
+        due("the row from 0 is the earliest", x.leastRest(0, 1), 0);
     }
 
     private static void overtime() {
