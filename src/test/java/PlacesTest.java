@@ -7,6 +7,7 @@ public final class PlacesTest {
         giveReasons();
         giveReasonsInTheirOrder();
         duties();
+        dutiesOnEveryFerry();
         restOfADay();
         longRest();
         restOfAWeek();
@@ -133,6 +134,23 @@ public final class PlacesTest {
         due("its handover at the hour 0", x.crew(6, 0, 2), 0);
         due("no rest in the hour 0", x.rest(0, 0, 1), 0);
         due("another duty in that hour", x.why(0, 0, 0), 6);
+    }
+
+    private static void dutiesOnEveryFerry() {
+        for (int ferry = 0; ferry < 6; ferry++) {
+            FerryCrews x = Check.withoutRests();
+            x.member(0, 900);
+            x.sailing(ferry, 5, 2, 1000);
+            x.sailing(ferry, 7, 2, 1000);
+            x.sailing((ferry + 1) % 6, 10, 2, 1000);
+            for (int n = 0; n < 3; n++) {
+                due("a place on " + n + " behind ferry " + ferry, x.give(0, n, 0), 0);
+            }
+            due("the first of ferry " + ferry, x.crew(0, 0, 2), 4);
+            due("the second of ferry " + ferry, x.crew(1, 0, 2), 7);
+            due("another than ferry " + ferry, x.crew(2, 0, 2), 9);
+            due("their hours", x.memberOf(0, 7), 8);
+        }
     }
 
     /** 10 of 24 hours: 14 hours of duty at the most. */
