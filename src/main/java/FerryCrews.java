@@ -776,7 +776,7 @@ public final class FerryCrews {
 
         int putLast(int member) {
             takeOff(member);
-            if (size < MOST_MEMBERS) {
+            if (isWithin(size, 0, MOST_MEMBERS - 1)) {
                 members[size] = member;
                 size++;
             }
@@ -1258,8 +1258,10 @@ public final class FerryCrews {
             if (size >= MOST_STATES) {
                 dropOldest();
             }
-            states[size].copyFrom(state);
-            size++;
+            if (isWithin(size, 0, MOST_STATES - 1)) {
+                states[size].copyFrom(state);
+                size++;
+            }
         }
 
         /** The dropped state's object goes to the end, to be used again. */
@@ -1294,7 +1296,7 @@ public final class FerryCrews {
         final int[] sets = new int[MOST_READ_SAILINGS];
 
         int append(char character) {
-            if (length >= MOST_CHARACTERS) {
+            if (!isWithin(length, 0, MOST_CHARACTERS - 1)) {
                 return FULL;
             }
             characters[length] = character;
@@ -1334,7 +1336,7 @@ public final class FerryCrews {
                 return false;
             }
             int set = readSet();
-            if (set == NOT_READ || sailingsRead >= MOST_READ_SAILINGS) {
+            if (set == NOT_READ || !isWithin(sailingsRead, 0, MOST_READ_SAILINGS - 1)) {
                 return false;
             }
             ferries[sailingsRead] = ferry;
