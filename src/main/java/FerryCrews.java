@@ -763,14 +763,17 @@ public final class FerryCrews {
         }
 
         int takeOff(int member) {
-            int stay = 0;
+            boolean found = false;
             for (int rank = 0; rank < size && rank < MOST_MEMBERS; rank++) {
-                if (members[rank] != member) {
-                    members[stay] = members[rank];
-                    stay++;
+                if (found && rank > 0) {
+                    members[rank - 1] = members[rank];
+                } else if (members[rank] == member) {
+                    found = true;
                 }
             }
-            size = stay;
+            if (found) {
+                size--;
+            }
             return size;
         }
 
